@@ -88,6 +88,18 @@ final class ForetellTest {
         check.due(22, "still(0, true)", y.still(0, true), 190);
         y.person(-1, 2);
         check.due(22, "still(0, true): three times that", y.still(0, true), -1);
+        // A fourth one comes to rest behind 10 or 11 years: 200 in all is found, 201 not.
+        for (int rest = 1; rest <= 2; rest++) {
+            ItalicsLean late = new ItalicsLean();
+            late.person(0, 1);
+            late.person(0, 4);
+            late.person(0, 1);
+            late.person(-9, rest);
+            late.by(Check.read(late, rings.replace("leans ", "leans if who = 3 then step slant to weight else ")
+                    .replace(";", " end;")));
+            check.due(22, "still(0, false): behind " + (9 + rest), late.still(0, false), rest == 1 ? 10 : -1);
+            check.due(22, "still(0, true): 190 more", late.still(0, true), rest == 1 ? 190 : -1);
+        }
         ItalicsLean z = new ItalicsLean();
         z.person(0, 1);
         z.person(0, 9);
@@ -199,6 +211,9 @@ final class ForetellTest {
         check.due(25, "seats(false, 3)", x.seats(false, 3), -2);
         check.due(25, "seats(false, -1)", x.seats(false, -1), -2);
         check.due(25, "seat(0, 0): nothing changes", x.seat(0, 0), 0);
+        ItalicsLean alone = new ItalicsLean();
+        alone.person(3, 2);
+        check.due(25, "seats(true, 0) of one", alone.seats(true, 0), 6);
         // Weight counts: the heavy one has its rack, though the light one is farther then.
         ItalicsLean y = new ItalicsLean();
         y.person(4, 1);
@@ -272,6 +287,7 @@ final class ForetellTest {
         check.due(29, "line(5, -1)", x.line(5, -1), -1);
         check.due(29, "line(0, 0)", x.line(0, 0), -1);
         check.due(29, "line(61, 0)", x.line(61, 0), -1);
+        check.due(28, "page(4, 0): the first word is wider", page(5, 1).page(4, 0), -1);
         // 3 / 2 2 / 5: badness 9 + 1 (a greedy 3 2 / 2 / 5 has 0 + 16).
         ItalicsLean y = page(3, 2, 2, 5);
         check.due(28, "page(6, 0)", y.page(6, 0), 10);

@@ -83,6 +83,15 @@ final class GuessTest {
         x.heard(0, 1);
         check.due(33, "listen(0): no pair", x.listen(0), -1);
         check.due(33, "listen(1): err is of what was heard", x.listen(1), 2);
+        ItalicsLean z = Check.people(1, 9);
+        z.by(Check.read(z, "hears if who = 0 then 7 else if from = 9 then word else 500 end end;"));
+        z.heard(1, 0);
+        check.due(33, "listen(1): of two pairs one is left", z.listen(1), 1);
+        ItalicsLean ends = Check.people(1, 2);
+        ends.by(Check.read(ends, "hears if who = 0 then -999 else word - 999 end;"));
+        check.due(33, "listen(0): the least that is heard", ends.listen(0), 1);
+        ends.by(Check.read(ends, "hears if who = 0 then 999 else 999 - word end;"));
+        check.due(33, "listen(0): the most that is heard", ends.listen(0), 1);
         ItalicsLean y = Check.people(0);
         check.due(33, "listen(0)", y.listen(0), 0);
         y.heard(0, 99);
@@ -202,6 +211,7 @@ final class GuessTest {
     private static void medians() {
         check.due(38, "median() of nobody", new ItalicsLean().median(), -100);
         check.due(38, "median() of one", Check.people(-9).median(), -9);
+        check.due(38, "median() of one", Check.people(9).median(), 9);
         check.due(38, "median() of two: the lower", Check.people(4, -2).median(), -2);
         check.due(38, "median() of three", Check.people(9, -9, 3).median(), 3);
         check.due(38, "median() of four", Check.people(5, 1, 7, 2).median(), 2);

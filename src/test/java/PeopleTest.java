@@ -255,6 +255,12 @@ final class PeopleTest {
         x.undo();
         check.due(15, "seat(0, 0)", x.seat(0, 0), 0);
         check.due(15, "undo()", x.undo(), -1);
+        x.prop(1, true);
+        x.year(1);
+        x.prop(0, true);
+        x.undo();
+        x.undo();
+        check.due(15, "is(3): the prop that was", x.is(3), 2);
         ItalicsLean y = Check.people(-1);
         y.year(1);
         check.due(15, "book(NONE, 0)", y.book(-1, 0), 1);

@@ -107,6 +107,14 @@ final class TextTest {
         fault("Leans 1;", 1, 0);
         fault("leansx 1;", 1, 0);
         whole("leans1;hears2;turn3;");
+        for (char letter : "aAmMzZ".toCharArray()) {
+            fault("leans" + letter + " 1;", 1, 0);
+        }
+        for (char none : "`{@[".toCharArray()) {
+            fault("leans" + none + " 1;", 1, 5);
+        }
+        fault("turn 1/", 1, 6);
+        fault("turn 1:", 1, 6);
         fault("leans ;", 1, 6);
         fault("leans 1", 1, 7);
         fault("leans 1  \n", 1, 10);
@@ -318,6 +326,9 @@ final class TextTest {
         check.due(13, "swap with itself", play(x, "swap 1 with 1;"), 0);
         check.due(13, "swap beyond", play(x, "prop 0; swap 1 with 2;"), 1);
         check.due(13, "free", play(x, "free 0; free 0;"), 1);
+        ItalicsLean z = Check.people(1, 2);
+        Check.read(z, "turn 1; turn 3; turn");
+        check.due(13, "what a faulty text left behind isn't played", play(z, "turn 1;"), -1);
         ItalicsLean y = Check.people(1);
         check.due(13, "nothing", play(y, ""), -1);
         check.due(13, "prop beyond", play(y, "prop 1;"), 0);
