@@ -369,6 +369,7 @@ final class EdgesOfAges {
         x.prop(1, false);
         x.back();
         doc.same("all", Look.at(x), image);
+        toldAnew();
         ItalicsLean y = Check.people(4);
         y.turn(1);
         y.image();
@@ -380,6 +381,28 @@ final class EdgesOfAges {
         doc.due("undo()", y.undo(), 0);
         doc.due("of(0, 0)", y.of(0, 0), 4);
         doc.due("of(1, 0): as told", y.of(1, 0), 7);
+    }
+
+    /** Words, what was heard and what was said, told anew in the places of those that an image has. */
+    private void toldAnew() {
+        ItalicsLean x = Check.people(1, 2);
+        Check.read(x, "leans who + 3;");
+        x.word(7);
+        x.word(3);
+        x.heard(1, 30);
+        x.said(0, 3);
+        x.image();
+        String image = Look.at(x);
+        x.word(NONE);
+        x.word(2);
+        x.word(9);
+        x.heard(NONE, 0);
+        x.heard(0, 55);
+        x.said(NONE, 0);
+        x.said(1, -4);
+        x.back();
+        doc.same("all, WORDS, HEARD and SAID having been told anew", Look.at(x), image);
+        doc.due("line(7, 1)", x.line(7, 1), 1);
     }
 
     private void promise46Image() {

@@ -154,6 +154,23 @@ final class EdgesOfGuesses {
         ItalicsLean ends = Check.people(1, 2);
         ends.by(Check.read(ends, "hears if who = 0 then 0 else if word = 0 then -999 else if word = 1 then 999 else word end end end;"));
         doc.due("listen(0): the least and the greatest are heard", ends.listen(0), 1);
+        for (int end : new int[] {-999, 999}) {
+            ItalicsLean y = Check.people(1, 2);
+            y.by(Check.read(y, "hears if who = 0 then if word < 60 then " + end + " else word end "
+                    + "else if word = 0 then " + end + " else word / 50 end end;"));
+            doc.due("listen(0): each PERSON by itself, of " + end, y.listen(0), 1);
+            doc.due("listen(0) again", y.listen(0), 1);
+        }
+        ItalicsLean two = Check.people(0, 0);
+        two.by(Check.read(two, "hears if who = 0 then 7 else word + from + seat 0 end;"));
+        two.heard(1, 0);
+        doc.due("meant(0, 0): two pairs", two.meant(0, 0), 2);
+        doc.due("listen(0): of like ones", two.listen(0), 0);
+        ItalicsLean first = Check.people(0, 9);
+        first.by(Check.read(first, "hears if who = 0 then 7 else if from = 9 then 500 else word end end;"));
+        first.heard(1, 0);
+        doc.due("meant(1, 0): two pairs", first.meant(1, 0), 2);
+        doc.due("listen(1): both are left, or one", first.listen(1), 1);
         doc.terms("IV", "of like ones the lowest; none (no pair, or one).");
         ItalicsLean alike = Check.people(1, 2, 3, 4, 5);
         doc.due("listen(0): all alike", alike.listen(0), 0);

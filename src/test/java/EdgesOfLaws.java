@@ -163,6 +163,19 @@ final class EdgesOfLaws {
             either("not " + a + "<" + b, a >= b);
             either("not not " + a + "<" + b, a < b);
         }
+        String[] so = {"1<2", "2<=2", "2>1", "2>=2", "2=2", "1#2"};
+        String[] notSo = {"2<2", "3<=2", "2>2", "1>=2", "1=2", "2#2"};
+        for (int i = 0; i < 6; i++) {
+            either("not " + so[i], false);
+            either("not " + notSo[i], true);
+            either("not not " + so[i], true);
+            for (int k = 0; k < 6; k++) {
+                either(so[i] + " and " + so[k], true);
+                either(so[i] + " and " + notSo[k], false);
+                either(notSo[i] + " or " + so[k], true);
+                either(notSo[i] + " or " + notSo[k], false);
+            }
+        }
         either("-1<0", true);
         either("1+1=2*1", true);
         either("not 1=2 and 1=2", false);

@@ -112,6 +112,13 @@ final class EdgesOfTexts {
         Check.tape(x, "turn 1;");
         doc.due("end(0)", x.end(0), 0);
         doc.due("about(7)", x.about(7), 0);
+        // A TOKEN ends where the tape does, whatever was behind it.
+        cut("turnx 1;", 4, 1, 4);
+        cut("leans 1; yearx", 13, 1, 13);
+        cut("year 600;", 7, 1, 7);
+        cut("leans if 1<=1 then 1 else 1 end;", 11, 1, 11);
+        cut("leans if 1>=1 then 1 else 1 end;", 11, 1, 11);
+        cut("turn 1; !", 8, 0, NONE);
         doc.says(5, "NONE, and nothing is done, if it has not so many, or n is below 0.");
         Check.tape(x, "turn 1; !");
         doc.due("end(10)", x.end(10), NONE);
@@ -126,6 +133,15 @@ final class EdgesOfTexts {
         doc.due("end(9): what was cut doesn't come back", x.end(9), NONE);
         doc.due("end(1) of an empty tape", new ItalicsLean().end(1), NONE);
         doc.due("text()", x.text(), 1);
+    }
+
+    private void cut(String text, int n, int why, int place) {
+        ItalicsLean x = new ItalicsLean();
+        Check.tape(x, text);
+        doc.due("end(" + n + ") of '" + text + "'", x.end(n), n);
+        doc.due("text()", x.text(), why == 0 ? 0 : NONE);
+        doc.due("fault(0)", x.fault(0), why);
+        doc.due("fault(1)", x.fault(1), place);
     }
 
     private void promise6Text() {
@@ -164,6 +180,26 @@ final class EdgesOfTexts {
         Check.tape(x, "turn 2;");
         doc.due("text(): there are none any more", x.text(), 0);
         doc.due("about(7)", x.about(7), 0);
+        behindAFault();
+    }
+
+    /** Nothing of a text with a fault is in the next one. */
+    private void behindAFault() {
+        ItalicsLean x = Check.people(1, 2);
+        doc.due("text() with a FAULT", Check.read(x, "leans 7; hears 70; turn 1; turn 1; turn 3; !"), NONE);
+        doc.due("text() behind it", Check.read(x, "turn 1;"), 0);
+        doc.due("played(0): its own CLAUSE alone", x.played(0), NONE);
+        doc.due("about(3)", x.about(3), 1);
+        x.by(0);
+        doc.due("of(1, 3): it has no leans", x.of(1, 3), 1);
+        doc.due("hears(1, 1, 5): it has no hears", x.hears(1, 1, 5), 5);
+        ItalicsLean y = Check.people(1);
+        for (int i = 0; i < 3; i++) {
+            doc.due("text() with a FAULT at the end", Check.read(y, "leans 1" + "+1".repeat(146) + "!"), NONE);
+            doc.due("fault(1)", y.fault(1), 299);
+        }
+        y.by(Check.read(y, "leans 1" + "-0".repeat(145) + "+6;"));
+        doc.due("of(0, 3) behind them", y.of(0, 3), 7);
     }
 
     private void promise7Fault() {
@@ -232,6 +268,10 @@ final class EdgesOfTexts {
         doc.due("of(0, 0): its last bytes count", x.of(0, 0), -4);
         fault(blanks(299) + "!", 1, 299);
         fault(blanks(294) + "turn 1", 1, 300);
+        fault(blanks(289) + "leans if 1<", 1, 300);
+        fault(blanks(289) + "leans if 1>", 1, 300);
+        fault(blanks(288) + "leans if 1<=", 1, 300);
+        fault(blanks(296) + "turn", 1, 300);
         whole("");
         whole(blanks(300));
         whole("leans 1" + "+1".repeat(146) + ";");
@@ -319,6 +359,8 @@ final class EdgesOfTexts {
         whole("");
         whole("turn 1;".repeat(24));
         fault("turn 1;".repeat(25), 6, 168);
+        ItalicsLean all = playedTo(1, "turn 1;".repeat(24), NONE);
+        doc.due("about(3): all 24 are done", all.about(3), 24);
         doc.terms("II", "leans SUM ; or hears SUM ; (each once)");
         whole("leans 1;");
         whole("hears 1;");
@@ -441,6 +483,14 @@ final class EdgesOfTexts {
         for (String one : wrong) {
             fault(one, 1, 6);
         }
+        fault("leans 1*;", 1, 8);
+        fault("leans 1/;", 1, 8);
+        fault("leans 1-;", 1, 8);
+        fault("leans 1*+1;", 1, 8);
+        fault("leans 1*1/;", 1, 10);
+        fault("leans (1*);", 1, 9);
+        fault("leans if 1<1 and then 1 else 1 end;", 1, 17);
+        fault("leans if 1<1 or then 1 else 1 end;", 1, 16);
         fault("leans (1;", 1, 8);
         fault("leans 1);", 1, 7);
         fault("leans ();", 1, 7);
@@ -476,6 +526,13 @@ final class EdgesOfTexts {
                 + "SEATS 0 .. 4, of turn 1 .. 5, YEARS 1 .. 60).");
         range("leans ", 0, 9999, ";");
         range("hears seat ", 0, 9999, ";");
+        range("leans 1*", 0, 9999, ";");
+        range("leans 1/", 0, 9999, "+1;");
+        range("leans 1+", 0, 9999, ";");
+        range("leans step ", 0, 9999, " to 1;");
+        range("leans step 1 to ", 0, 9999, ";");
+        range("leans if ", 0, 9999, " < 1 then 1 else 1 end;");
+        range("leans if 1=1 and not 1 # ", 0, 9999, " then 1 else 1 end;");
         range("leans if 1 = ", 0, 9999, " then 1 else 1 end;");
         range("person ", 0, 18, " weight 1;");
         range("rack ", 0, 18, " at 1;");
@@ -567,6 +624,9 @@ final class EdgesOfTexts {
             fault("leans " + name + ";", 5, 6);
             fault("hears 1; leans (" + name + ";", 5, 16);
         }
+        fault("leans 2*word;", 5, 8);
+        fault("leans if 1 = from then 1 else 1 end;", 5, 13);
+        fault("hears step 1 to left;", 5, 16);
         fault("leans words;", 1, 6);
         fault("leans Word;", 1, 6);
     }

@@ -612,6 +612,12 @@ final class EdgesOfWhatComes {
         doc.due("page(5, 1)", x.page(5, 1), 3);
         doc.due("page(60, 0)", x.page(60, 0), 0);
         doc.due("page(60, 1)", x.page(60, 1), 1);
+        ItalicsLean fewer = words(3, 4, 5);
+        page(fewer, 5, 5, 0, 1, 2);
+        fewer.word(NONE);
+        page(fewer, 5, 0);
+        fewer.word(2);
+        page(fewer, 5, 0, 0);
         doc.says(28, "NONE: it can't be, and for others (1 .. 60).");
         doc.due("page(4, 0): it can't be", x.page(4, 0), NONE);
         doc.due("page(1, 1): it can't be", x.page(1, 1), NONE);
