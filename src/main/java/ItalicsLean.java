@@ -490,12 +490,12 @@ public final class ItalicsLean {
         if (!within(err, 0, MOST_ERR)) {
             return NONE;
         }
-        gatherPairs(err);
+        Guess fitting = gatherPairs(err);
         switch (what) {
             case 0:
-                return guess.count;
+                return fitting.count;
             case 1:
-                return guess.count == 0 ? NONE : guess.pairs[0];
+                return fitting.count == 0 ? NONE : fitting.pairs[0];
             default:
                 return NONE;
         }
@@ -505,14 +505,14 @@ public final class ItalicsLean {
         if (!within(err, 0, MOST_ERR)) {
             return NONE;
         }
-        gatherPairs(err);
-        if (guess.count < 2) {
+        Guess fitting = gatherPairs(err);
+        if (fitting.count < 2) {
             return NONE;
         }
         int best = NONE;
         int fewest = 0;
         for (int person = 0; person < row.people; person++) {
-            int left = guess.mostLeft(row, person, ruling());
+            int left = fitting.mostLeft(row, person, ruling());
             if (best == NONE || left < fewest) {
                 best = person;
                 fewest = left;
@@ -796,11 +796,12 @@ public final class ItalicsLean {
         return cost;
     }
 
-    private void gatherPairs(int err) {
+    private Guess gatherPairs(int err) {
         if (guess == null) {
             guess = new Guess(laws);
         }
         guess.gather(row, told, ruling(), err);
+        return guess;
     }
 
     private boolean agrees(Text text) {
@@ -1940,16 +1941,12 @@ public final class ItalicsLean {
 
         private boolean fits(Row row, Told told, Text text, int err, int pair) {
             for (int i = 0; i < told.heard; i++) {
-                int as = hearingOf(row, told.heardWho[i], text, pair);
+                int as = laws.hearing(row, told.heardWho[i], pair / WORDS_SAID, pair % WORDS_SAID, text);
                 if (Math.abs(as - told.heardAs[i]) > err) {
                     return false;
                 }
             }
             return true;
-        }
-
-        private int hearingOf(Row row, int ear, Text text, int pair) {
-            return laws.hearing(row, ear, pair / WORDS_SAID, pair % WORDS_SAID, text);
         }
 
         /** How many of the pairs a person hears alike, at the most. */
@@ -1959,9 +1956,10 @@ public final class ItalicsLean {
             }
             int most = 0;
             for (int i = 0; i < count; i++) {
-                int as = hearingOf(row, person, text, pairs[i]) + MOST_HEARD_AS;
-                alike[as]++;
-                most = Math.max(most, alike[as]);
+                int pair = pairs[i];
+                int as = laws.hearing(row, person, pair / WORDS_SAID, pair % WORDS_SAID, text);
+                alike[as + MOST_HEARD_AS]++;
+                most = Math.max(most, alike[as + MOST_HEARD_AS]);
             }
             return most;
         }
