@@ -20,6 +20,7 @@ final class EdgesOfLaws {
         termsIIDivision();
         termsIIMillion();
         termsIIBothSides();
+        termsIIEightAroundOneAnother();
         termsIITheTextRules();
         termsIILeans();
         termsIIHears();
@@ -284,6 +285,23 @@ final class EdgesOfLaws {
         doc.terms("II", "or and and look at both sides always,");
         either("7/0=0 or 1=2", true);
         either("1=2 and 7/0=0", false);
+    }
+
+    private void termsIIEightAroundOneAnother() {
+        doc.terms("II", "3 the 9th of ( not step seat if and - (of one ONE) that are open around one another");
+        sum("(".repeat(8) + "5" + ")".repeat(8), 5);
+        sum("-".repeat(8) + "5", 5);
+        sum("-".repeat(7) + "5", -5);
+        sum("step ".repeat(8) + "1" + " to 9".repeat(8), 9);
+        sum("step 1 to ".repeat(8) + "9", 2);
+        sum("seat ".repeat(8) + "2", 0);
+        sum("if " + "not ".repeat(7) + "1=1 then 4 else 5 end", 5);
+        sum("if " + "not ".repeat(6) + "1=1 then 4 else 5 end", 4);
+        // As much as can be waiting at each of them: what or, and, a comparison, a sum and a product have to the left.
+        String heads = "if 0=1or 1=1and 1=0+1*".repeat(7);
+        String tails = " then 1else 2end".repeat(7);
+        sum(heads + "(0+1*1)" + tails, 1);
+        sum(heads + "(1+1*1)" + tails, 2);
     }
 
     private void termsIITheTextRules() {
