@@ -1524,19 +1524,15 @@ public final class ItalicsLean {
                     stop++;
                 }
             } else if (isDigit(bytes[start])) {
-                scanNumber();
+                kind = NUMBER;
+                number = 0;
+                while (stop < length && isDigit(bytes[stop])) {
+                    // Beyond the greatest it is wrong however long it goes on.
+                    number = Math.min(MOST_NUMBER + 1, number * 10 + bytes[stop] - '0');
+                    stop++;
+                }
             } else {
                 scanSign();
-            }
-        }
-
-        private void scanNumber() {
-            kind = NUMBER;
-            number = 0;
-            while (stop < length && isDigit(bytes[stop])) {
-                // Beyond the greatest it is wrong however long it goes on.
-                number = Math.min(MOST_NUMBER + 1, number * 10 + bytes[stop] - '0');
-                stop++;
             }
         }
 

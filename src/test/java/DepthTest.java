@@ -67,7 +67,7 @@ final class DepthTest {
         }
     }
 
-    /** The longest chain from a method on; methods that come back to themselves go into none. */
+    /** The longest chain from a method on; methods that come back to one another count as one. */
     private List<String> longestFrom(String method) {
         List<String> known = longest.get(method);
         if (known != null) {
@@ -83,9 +83,7 @@ final class DepthTest {
             }
         }
         List<String> chain = new ArrayList<>();
-        if (ring.size() == 1 && !calls.getOrDefault(method, Set.of()).contains(method)) {
-            chain.add(method);
-        }
+        chain.add(ring.size() == 1 ? method : "those around " + method);
         chain.addAll(best);
         longest.put(method, chain);
         return chain;
